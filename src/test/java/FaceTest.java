@@ -1,0 +1,63 @@
+import java.lang.reflect.Constructor;
+import java.lang.reflect.Field;
+import java.lang.reflect.Method;
+import java.lang.reflect.Modifier;
+import java.util.Set;
+import java.util.TreeSet;
+
+/** The public face, and rule 1 of LANGUAGE.md: nothing else can be seen from outside. */
+public final class FaceTest {
+    private static final Set<String> FACE = Set.of(
+        "public static final int ConferenceBridge.NONE",
+        "public ConferenceBridge()",
+        "public int ConferenceBridge.decode(int,int) throws java.util.NoSuchElementException",
+        "public int ConferenceBridge.encode(int,int)",
+        "public boolean ConferenceBridge.law(int,int)",
+        "public boolean ConferenceBridge.gain(int,int)",
+        "public boolean ConferenceBridge.mute(int,boolean)",
+        "public boolean ConferenceBridge.speakers(int)",
+        "public boolean ConferenceBridge.put(int,int,int)",
+        "public boolean ConferenceBridge.ramp(int,int,int)",
+        "public int ConferenceBridge.mix()",
+        "public int ConferenceBridge.out(int,int)",
+        "public long ConferenceBridge.energy(int) throws java.util.NoSuchElementException");
+
+    public static void main(String[] args) {
+        Checks checks = new Checks();
+        int kind = ConferenceBridge.class.getModifiers();
+        checks.due("the class is public and final", kind, Modifier.PUBLIC | Modifier.FINAL);
+        checks.due("NONE", ConferenceBridge.NONE, -1);
+
+        Set<String> seen = new TreeSet<>();
+        Set<String> publicNames = new TreeSet<>();
+        for (Field field : ConferenceBridge.class.getDeclaredFields()) {
+            addIfSeen(seen, field.getModifiers(), field.toString());
+        }
+        for (Constructor<?> constructor : ConferenceBridge.class.getDeclaredConstructors()) {
+            addIfSeen(seen, constructor.getModifiers(), constructor.toString());
+        }
+        for (Method method : ConferenceBridge.class.getDeclaredMethods()) {
+            addIfSeen(seen, method.getModifiers(), method.toString());
+            if (Modifier.isPublic(method.getModifiers())) {
+                publicNames.add(method.getName());
+            }
+        }
+        for (String member : FACE) {
+            checks.due("the face has " + member, seen.contains(member), true);
+        }
+        for (String member : seen) {
+            checks.due("the face may have " + member, FACE.contains(member), true);
+        }
+        for (Method method : ConferenceBridge.class.getDeclaredMethods()) {
+            boolean namesake = Modifier.isPrivate(method.getModifiers()) && publicNames.contains(method.getName());
+            checks.due("a private method bears a public one's name: " + method, namesake, false);
+        }
+        checks.end();
+    }
+
+    private static void addIfSeen(Set<String> seen, int modifiers, String member) {
+        if (!Modifier.isPrivate(modifiers)) {
+            seen.add(member);
+        }
+    }
+}
