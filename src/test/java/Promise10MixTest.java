@@ -7,6 +7,7 @@ public final class Promise10MixTest {
         energyDecidesNotTheGreatestSample(checks);
         eachHearsAllSpeakersButItself(checks);
         sumsAreSaturatedOnlyAtTheEnd(checks);
+        theOwnVoiceIsTakenOutAheadOfSaturating(checks);
         nothingIsLeftOfAnEarlierMixing(checks);
         checks.end();
     }
@@ -90,6 +91,21 @@ public final class Promise10MixTest {
         bridge.mix();
         checks.dueOutThroughout(bridge, 3, 0);
         checks.dueOutThroughout(bridge, 7, bridge.encode(1, -voice));
+    }
+
+    /** mu means 30076 by the code of 30000, and 7932 by that of 8000. */
+    private static void theOwnVoiceIsTakenOutAheadOfSaturating(Checks checks) {
+        for (int sign = -1; sign <= 1; sign += 2) {
+            ConferenceBridge bridge = new ConferenceBridge();
+            bridge.ramp(1, sign * 30000, 0);
+            bridge.ramp(3, sign * 8000, 0);
+            bridge.speakers(2);
+            checks.due("mix()", bridge.mix(), 2 + 8);
+            checks.dueOutThroughout(bridge, 1, bridge.encode(1, sign * 7932));
+            checks.dueOutThroughout(bridge, 3, bridge.encode(1, sign * 30076));
+            checks.dueOutThroughout(bridge, 4, sign < 0 ? 42 : 170);
+            checks.dueOutThroughout(bridge, 5, sign < 0 ? 0 : 128);
+        }
     }
 
     private static void nothingIsLeftOfAnEarlierMixing(Checks checks) {
