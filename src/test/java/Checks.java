@@ -1,3 +1,4 @@
+import java.util.List;
 import java.util.NoSuchElementException;
 
 /** What the tests share: counting wrong answers, and ending with exit code 1 if there was one. */
@@ -12,29 +13,49 @@ final class Checks {
     }
 
     private int wrong = 0;
+    private String where = "";
+
+    /** All that is told from now on belongs to this case. */
+    void begin(String boundary) {
+        where = boundary + ": ";
+    }
 
     void due(String call, long got, long want) {
         if (got != want) {
-            wrong++;
-            System.out.println(call + " answered " + got + ", due is " + want);
+            tell(call + " answered " + got + ", due is " + want);
         }
     }
 
     void due(String call, boolean got, boolean want) {
         if (got != want) {
-            wrong++;
-            System.out.println(call + " answered " + got + ", due is " + want);
+            tell(call + " answered " + got + ", due is " + want);
         }
     }
 
     void dueNoSuchElement(String call, Call made) {
+        long got;
         try {
-            long got = made.answer();
-            wrong++;
-            System.out.println(call + " answered " + got + ", due is a NoSuchElementException");
+            got = made.answer();
         } catch (NoSuchElementException expected) {
             return;
         }
+        tell(call + " answered " + got + ", due is a NoSuchElementException");
+    }
+
+    /** Both objects are in the same state, as far as calls can tell; both are changed by looking. */
+    void dueSame(ConferenceBridge got, ConferenceBridge want) {
+        List<String> seen = Observed.of(got);
+        List<String> wanted = Observed.of(want);
+        for (int i = 0; i < wanted.size(); i++) {
+            if (!seen.get(i).equals(wanted.get(i))) {
+                tell("the state shows " + seen.get(i) + ", due is " + wanted.get(i));
+            }
+        }
+    }
+
+    private void tell(String fault) {
+        wrong++;
+        System.out.println(where + fault);
     }
 
     /** All eight codes that go to a party. */
