@@ -36,7 +36,10 @@ final class Checks {
         long got;
         try {
             got = made.answer();
-        } catch (NoSuchElementException expected) {
+        } catch (NoSuchElementException thrown) {
+            if (thrown.getClass() != NoSuchElementException.class) {
+                tell(call + " threw " + thrown.getClass() + ", due is a NoSuchElementException itself");
+            }
             return;
         }
         tell(call + " answered " + got + ", due is a NoSuchElementException");

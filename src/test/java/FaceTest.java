@@ -27,6 +27,11 @@ public final class FaceTest {
         int kind = ConferenceBridge.class.getModifiers();
         checks.due("the class is public and final", kind, Modifier.PUBLIC | Modifier.FINAL);
         checks.due("NONE", ConferenceBridge.NONE, -1);
+        checks.due("NONE is a constant that a switch can use", namesNone(-1), true);
+        checks.due("what is not NONE", namesNone(0), false);
+        nothingIsInherited(checks);
+        noClassInsideIsSeen(checks);
+        noStateIsShared(checks);
 
         Set<String> seen = new TreeSet<>();
         Set<String> publicNames = new TreeSet<>();
@@ -53,6 +58,39 @@ public final class FaceTest {
             checks.due("a private method bears a public one's name: " + method, namesake, false);
         }
         checks.end();
+    }
+
+    private static boolean namesNone(int answer) {
+        switch (answer) {
+            case ConferenceBridge.NONE: return true;
+            default: return false;
+        }
+    }
+
+    private static void nothingIsInherited(Checks checks) {
+        checks.due("the class extends Object alone", ConferenceBridge.class.getSuperclass() == Object.class, true);
+        checks.due("interfaces of the class", ConferenceBridge.class.getInterfaces().length, 0);
+        checks.due("type parameters of the class", ConferenceBridge.class.getTypeParameters().length, 0);
+        checks.due("the class has no package", ConferenceBridge.class.getPackageName().isEmpty(), true);
+    }
+
+    /** A class inside may be package-visible by rule 1, if it is static. */
+    private static void noClassInsideIsSeen(Checks checks) {
+        for (Class<?> inside : ConferenceBridge.class.getDeclaredClasses()) {
+            int kind = inside.getModifiers();
+            boolean seen = Modifier.isPublic(kind) || Modifier.isProtected(kind);
+            checks.due("a class inside is seen: " + inside, seen, false);
+            boolean within = Modifier.isPrivate(kind) || Modifier.isStatic(kind);
+            checks.due("a class inside is private or static: " + inside, within, true);
+        }
+    }
+
+    /** Rule 5, and "All memory is the class's own.": what is static never changes. */
+    private static void noStateIsShared(Checks checks) {
+        for (Field field : ConferenceBridge.class.getDeclaredFields()) {
+            int kind = field.getModifiers();
+            checks.due(field + " is no state that objects share", Modifier.isStatic(kind) && !Modifier.isFinal(kind), false);
+        }
     }
 
     private static void addIfSeen(Set<String> seen, int modifiers, String member) {
