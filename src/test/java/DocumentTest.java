@@ -136,6 +136,8 @@ public final class DocumentTest {
         checks.begin("PARTIES: another frame that goes");
         ConferenceBridge bridge = new ConferenceBridge();
         for (int party = 0; party < 8; party++) {
+            bridge.put(party, party, 0);
+            checks.dueOutThroughout(bridge, party, party % 2 == 0 ? 213 : 255);
             bridge.ramp(party, 20000, 0);
             checks.dueOutThroughout(bridge, party, party % 2 == 0 ? 213 : 255);
         }
